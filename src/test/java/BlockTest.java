@@ -78,6 +78,8 @@ public final class BlockTest {
         shown("-a\n+b\n1.c\n1 d\n10. e", "{D:{P:-a\n+b\n1.c\n1 d\n10. e}}");
         shown("- \n  a", "{D:{L0:{I:{P:a}}}}");
         shown("--", "{D:{P:--}}");
+        shown("9. a", "{D:{L0:{I:{P:a}}}}");
+        shown("/. a\n:. b\na. c\n1) d\n* e", "{D:{P:/. a\n:. b\na. c\n1) d\n* e}}");
         shown("0. - + a", "{D:{L0:{I:{L0:{I:{L0:{I:{P:a}}}}}}}}");
     }
 
@@ -88,6 +90,7 @@ public final class BlockTest {
         shown("~~~~\n~~", "{D:{P:~~~~\n~~}}");
         shown("a\n~~~\n~~~\nb", "{D:{P:a}{F:}{P:b}}");
         shown(" ~~~", "{D:{P:~~~}}");
+        shown("x~~\n~x~\n~~x\n~~~ x", "{D:{P:x~~\n~x~\n~~x\n~~~ x}}");
         shown("~~~ \n ~~~\n~~~x\n~~~", "{D:{F: ~~~\n~~~x\n}}");
         shown("> ~~~\n> a\n>   b\nc", "{D:{Q:{F:a\n  b\n}}{P:c}}");
         shown("> ~~~\n\n> a", "{D:{Q:{F:}}{Q:{P:a}}}");
@@ -113,6 +116,9 @@ public final class BlockTest {
         shown("[aB3dEfg]: t", "{D:{P:[aB3dEfg]: t}}");
         shown("[a]: 123456789", "{D:{P:[a]: 123456789}}");
         shown("[a]:t", "{D:{P:[a]:t}}");
+        shown("(a]: t\n[a): t\n[a]; t", "{D:{P:(a]: t\n[a): t\n[a]; t}}");
+        shown("[a): t", "{D:{P:[a): t}}");
+        shown("[a]; t", "{D:{P:[a]; t}}");
         shown("[a]: ", "{D:{P:[a]:}}");
         shown("[]: t", "{D:{P:[]: t}}");
         shown("[a]: t u", "{D:{P:[a]: t u}}");

@@ -32,6 +32,8 @@ public final class InlineTest {
         inline("\\[a]\n\n[a]: t", "[a]");
         inline("[a\\]\n\n[a]: t", "[a]");
         inline("\\~\\#\\0", "~#\\0");
+        inline("\\9\\A\\Z\\a\\z\\@\\^\\/\\:", "\\9\\A\\Z\\a\\z@^/:");
+        inline("\\a *b*", "\\a {E:b}");
     }
 
     private static void code() {
