@@ -37,11 +37,7 @@ public final class AnyCallsTest {
     }
 
     private static void anyCalls(int run) {
-        Marktongue tongue = new Marktongue();
-        String text = anyText();
-        for (int place = 0; place < text.length(); place++) {
-            tongue.put(place, text.charAt(place));
-        }
+        Tongue tongue = new Sheet(anyText()).tongue;
         for (int step = 0; step < 250; step++) {
             int call = any(17);
             int first = argument();
@@ -60,7 +56,7 @@ public final class AnyCallsTest {
                 || thrown.getClass() == IllegalStateException.class;
     }
 
-    private static int answer(Marktongue tongue, int call, int first, int second) {
+    private static int answer(Tongue tongue, int call, int first, int second) {
         switch (call) {
             case 0:
                 return tongue.put(first, PIECES[any(PIECES.length)].charAt(0));
@@ -102,7 +98,7 @@ public final class AnyCallsTest {
     /** What nodes, node, child, count, leads and printed tell of one tree is the same tree. */
     private static void fits(String text) {
         Sheet sheet = new Sheet(text);
-        Marktongue tongue = sheet.tongue;
+        Tongue tongue = sheet.tongue;
         int[] counts = new int[13];
         for (int node = 0; node < tongue.nodes(); node++) {
             int kind = tongue.node(node, 0);

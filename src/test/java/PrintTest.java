@@ -15,12 +15,7 @@ public final class PrintTest {
     }
 
     private static String numbersOf(String text, int target) {
-        Sheet sheet = new Sheet(text);
-        StringBuilder all = new StringBuilder();
-        for (int place = 0; place < sheet.tongue.print(target); place++) {
-            all.append(place == 0 ? "" : " ").append(sheet.tongue.printed(target, place));
-        }
-        return all.toString();
+        return new Sheet(text).numbers(target);
     }
 
     private static void numbers() {

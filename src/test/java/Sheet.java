@@ -1,22 +1,43 @@
+import java.util.function.IntUnaryOperator;
+
 /** An object with a text typed into it, and short ways to tell what it answers. */
 final class Sheet {
     private static final String LETTERS = "DQLIHFP.TESCK";
-    final Marktongue tongue = new Marktongue();
+    final Tongue tongue;
 
     Sheet(String text) {
+        this(new Tongue());
         type(text);
     }
 
+    Sheet(Tongue tongue) {
+        this.tongue = tongue;
+    }
+
+    /** Makes that the text: puts in and takes out what is not the same at both ends. */
     void type(String text) {
-        tongue.clear();
-        for (int place = 0; place < text.length(); place++) {
+        String before = text();
+        int least = Math.min(before.length(), text.length());
+        int ahead = 0;
+        while (ahead < least && before.charAt(ahead) == text.charAt(ahead)) {
+            ahead++;
+        }
+        int behind = 0;
+        while (behind < least - ahead && before.charAt(before.length() - 1 - behind) == text.charAt(text.length() - 1 - behind)) {
+            behind++;
+        }
+        if (before.length() > ahead + behind) {
+            tongue.take(ahead, before.length() - ahead - behind);
+        }
+        for (int place = ahead; place < text.length() - behind; place++) {
             tongue.put(place, text.charAt(place));
         }
     }
 
     String text() {
         StringBuilder all = new StringBuilder();
-        for (int place = 0; place < tongue.length(); place++) {
+        int size = tongue.length();
+        for (int place = 0; place < size; place++) {
             all.append((char) tongue.character(place));
         }
         return all.toString();
@@ -24,8 +45,12 @@ final class Sheet {
 
     /** What is printed to target 0: {, the letter of the kind, its number, a colon, what is within, }. */
     String shown() {
+        return shown(0, tongue.print(0));
+    }
+
+    private String shown(int from, int end) {
         StringBuilder all = new StringBuilder();
-        for (int place = 0; place < tongue.print(0); place++) {
+        for (int place = from; place < end; place++) {
             int number = tongue.printed(0, place);
             if (number >= 2000) {
                 all.append('}');
@@ -46,7 +71,8 @@ final class Sheet {
 
     String plain() {
         StringBuilder all = new StringBuilder();
-        for (int place = 0; place < tongue.print(1); place++) {
+        int size = tongue.print(1);
+        for (int place = 0; place < size; place++) {
             all.append((char) tongue.printed(1, place));
         }
         return all.toString();
@@ -55,7 +81,8 @@ final class Sheet {
     /** The letters of the kinds, as the nodes are numbered. */
     String kinds() {
         StringBuilder all = new StringBuilder();
-        for (int node = 0; node < tongue.nodes(); node++) {
+        int size = tongue.nodes();
+        for (int node = 0; node < size; node++) {
             all.append(LETTERS.charAt(tongue.node(node, 0)));
         }
         return all.toString();
@@ -63,17 +90,66 @@ final class Sheet {
 
     /** Of each node what is told under that number. */
     String told(int what) {
+        return listed(tongue.nodes(), node -> tongue.node(node, what));
+    }
+
+    String owners() {
+        return listed(tongue.length(), tongue::owner);
+    }
+
+    String children(int node) {
+        return listed(tongue.node(node, 2), place -> tongue.child(node, place));
+    }
+
+    String counts() {
+        return listed(LETTERS.length(), tongue::count);
+    }
+
+    String numbers(int target) {
+        return listed(tongue.print(target), place -> tongue.printed(target, place));
+    }
+
+    /** To which nodes the LINKs lead. */
+    String ways() {
         StringBuilder all = new StringBuilder();
-        for (int node = 0; node < tongue.nodes(); node++) {
-            all.append(node == 0 ? "" : " ").append(tongue.node(node, what));
+        int size = tongue.nodes();
+        for (int node = 0; node < size; node++) {
+            if (tongue.node(node, 0) == Marktongue.LINK) {
+                all.append(all.length() == 0 ? "" : " ").append(tongue.leads(node));
+            }
         }
         return all.toString();
     }
 
-    String owners() {
+    /** All that can be asked of the text and its tree. */
+    String everything() {
+        StringBuilder all = new StringBuilder(text());
+        for (int what = 0; what < 4; what++) {
+            all.append("|").append(told(what));
+        }
+        int size = tongue.nodes();
+        for (int node = 0; node < size; node++) {
+            all.append("|").append(children(node));
+        }
+        return all + "|" + owners() + "|" + ways() + "|" + counts() + "|" + numbers(0) + "|" + numbers(1);
+    }
+
+    /** What is kept in a slot. */
+    String kept(int slot) {
+        Sheet other = new Sheet(tongue.fork());
+        return other.tongue.load(slot) + " " + other.text();
+    }
+
+    /** What merging would answer, and the text then. */
+    String merged() {
+        Sheet other = new Sheet(tongue.fork());
+        return other.tongue.merge() + " " + other.text();
+    }
+
+    private static String listed(int many, IntUnaryOperator answers) {
         StringBuilder all = new StringBuilder();
-        for (int place = 0; place < tongue.length(); place++) {
-            all.append(place == 0 ? "" : " ").append(tongue.owner(place));
+        for (int place = 0; place < many; place++) {
+            all.append(place == 0 ? "" : " ").append(answers.applyAsInt(place));
         }
         return all.toString();
     }
@@ -82,16 +158,17 @@ final class Sheet {
         return new Sheet(text).shown();
     }
 
-    /** What is within the first block, if that is a PARAGRAPH. */
+    /** What is within the first block, which has to be a PARAGRAPH. */
     static String inlineOf(String text) {
-        String shown = shownOf(text);
-        int depth = 0;
-        for (int place = 6; place < shown.length() && shown.startsWith("{D:{P:"); place++) {
-            depth += shown.charAt(place) == '{' ? 1 : shown.charAt(place) == '}' ? -1 : 0;
-            if (depth < 0) {
-                return shown.substring(6, place);
-            }
+        Sheet sheet = new Sheet(text);
+        int size = sheet.tongue.print(0);
+        if (size < 4 || sheet.tongue.printed(0, 1) != 1000 + Marktongue.PARAGRAPH) {
+            return "no PARAGRAPH";
         }
-        return shown;
+        int end = 2;
+        while (sheet.tongue.printed(0, end) != 2000 + Marktongue.PARAGRAPH) {
+            end++;
+        }
+        return sheet.shown(2, end);
     }
 }

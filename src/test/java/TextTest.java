@@ -16,7 +16,7 @@ public final class TextTest {
     }
 
     private static void newObject() {
-        Marktongue tongue = new Marktongue();
+        Tongue tongue = new Tongue();
         Due.same("1 length", tongue.length(), 0);
         Due.same("1 nodes", tongue.nodes(), 1);
         Due.same("1 print 0", tongue.print(0), 2);
