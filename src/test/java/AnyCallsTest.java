@@ -37,7 +37,8 @@ public final class AnyCallsTest {
     }
 
     private static void anyCalls(int run) {
-        Tongue tongue = new Sheet(anyText()).tongue;
+        Sheet sheet = new Sheet(anyText());
+        Tongue tongue = sheet.tongue;
         for (int step = 0; step < 250; step++) {
             int call = any(17);
             int first = argument();
@@ -49,6 +50,7 @@ public final class AnyCallsTest {
                 Due.same("run " + run + ", call " + call + " is thrown as", named(thrown), true);
             }
         }
+        Due.same("run " + run + ", all answers then", sheet.everything(), new Sheet(sheet.text()).everything());
     }
 
     private static boolean named(RuntimeException thrown) {

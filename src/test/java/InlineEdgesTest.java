@@ -1,3 +1,5 @@
+import java.util.function.BinaryOperator;
+
 /** The section "Inline", sentence by sentence: the last text that it lets be so, and the first that it does not. */
 public final class InlineEdgesTest {
     private static final String TOLD = "\n\n[a]: t\n[abcdef]: u";
@@ -207,34 +209,31 @@ public final class InlineEdgesTest {
         told("*[b]*", "{E:[b]}");
     }
 
-    /** Whether each run may open: rows by what is ahead, columns by what is behind. */
+    /** What may be at the outer side of a run, and in the same order whether it opens or closes towards each inner side. */
+    private static void flanks(String name, String[] outer, String[] inner, BinaryOperator<String> text) {
+        String[] may = {"11111100", "11111100", "11111100", "11111100", "11111100", "11111100", "11000000", "11000000", "11000000"};
+        for (int row = 0; row < outer.length; row++) {
+            for (int column = 0; column < inner.length; column++) {
+                String run = text.apply(outer[row], inner[column]);
+                Due.same(run + name, Sheet.inlineOf(run).contains("{E:"), may[row].charAt(column) == '1');
+            }
+        }
+    }
+
+    /** "it may open, if behind it is no blank, line end or the end, and, besides, behind it is no sign, or ahead of it is ..." */
     private static void opens() {
         String[] ahead = {"", "x ", "x\n", "x!", "x`c`", "x\\!", "x", "X", "9"};
         String[] behind = {"b", "9", "!b", "\\!b", "`c`b", "(b", " b", "\nb"};
-        String[] may = {"11111100", "11111100", "11111100", "11111100", "11111100", "11111100", "11000000", "11000000", "11000000"};
-        for (int row = 0; row < ahead.length; row++) {
-            for (int column = 0; column < behind.length; column++) {
-                String shown = Sheet.inlineOf(ahead[row] + "*" + behind[column] + "z*");
-                boolean isOpening = may[row].charAt(column) == '1';
-                Due.same(ahead[row] + "*" + behind[column] + " may open", shown.contains("{E:"), isOpening);
-            }
-        }
+        flanks(" opens", ahead, behind, (outer, inner) -> outer + "*" + inner + "z*");
         inline("*", "*");
         inline("a *", "a *");
     }
 
-    /** "it may close likewise, ahead and behind being exchanged": rows by what is behind, columns by what is ahead. */
+    /** "it may close likewise, ahead and behind being exchanged" */
     private static void closes() {
         String[] behind = {"", " x", "\nx", "!x", "`c`x", "\\!x", "x", "X", "9"};
         String[] ahead = {"b", "9", "b!", "b\\!", "b`c`", "b)", "b ", "b\n"};
-        String[] may = {"11111100", "11111100", "11111100", "11111100", "11111100", "11111100", "11000000", "11000000", "11000000"};
-        for (int row = 0; row < behind.length; row++) {
-            for (int column = 0; column < ahead.length; column++) {
-                String shown = Sheet.inlineOf("*z" + ahead[column] + "*" + behind[row]);
-                boolean isClosing = may[row].charAt(column) == '1';
-                Due.same(ahead[column] + "*" + behind[row] + " may close", shown.contains("{E:"), isClosing);
-            }
-        }
+        flanks(" closes", behind, ahead, (outer, inner) -> "*z" + inner + "*" + outer);
         inline("*a *", "*a *");
         inline("* a*", "* a*");
         inline("*a\n*", "*a\n*");

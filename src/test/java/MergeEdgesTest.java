@@ -222,6 +222,12 @@ public final class MergeEdgesTest {
         clean("", ends, "", ends);
         clean(ends, ends, "a", "a");
         clean("", "", ends, ends);
+        String far = "b" + "\n".repeat(220) + "c";
+        clean("b\nc", "b\nc\nd", far, far + "\nd");
+        clean("b\nc", far, "b\nc\nd", far + "\nd");
+        clean(far, far + "\nd", "a\n" + far, "a\n" + far + "\nd");
+        String middle = "r\nq" + "\n".repeat(62) + "m" + "\n".repeat(7) + "p";
+        clean("m\np\nr\nq", "m\np\nz\nr\nq", middle + "\nr", middle + "\nz\nr");
         clean("a\n".repeat(80), "a\n".repeat(79) + "b\na\n", "c\n" + "a\n".repeat(80), "c\n" + "a\n".repeat(79) + "b\na\n");
     }
 

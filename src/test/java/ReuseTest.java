@@ -20,6 +20,8 @@ public final class ReuseTest {
         "a  \n \n\n \nb\n\n",
         "***a*** `b`` c` [d",
         "x****a*b**c",
+        "[a] [b] [c][x] [A1]",
+        "# A1\n+ [d]: t",
     };
 
     public static void main(String[] args) {
@@ -30,6 +32,7 @@ public final class ReuseTest {
                 merges(first, next);
             }
         }
+        longMerges();
         changes();
         Due.finish("ReuseTest");
     }
@@ -79,6 +82,25 @@ public final class ReuseTest {
         sheet.tongue.growTree();
         Due.same("merge " + named(first, next), sheet.tongue.merge(), 0);
         Due.same("merged " + named(first, next), sheet.everything(), new Sheet(next).everything());
+    }
+
+    /** A merge counts the characters that it takes, and none of an earlier one. */
+    private static void longMerges() {
+        Sheet sheet = new Sheet("a".repeat(200));
+        sheet.tongue.keep(0);
+        sheet.tongue.keep(1);
+        for (int time = 0; time < 5; time++) {
+            Due.same("merge " + time, sheet.tongue.merge() + " " + sheet.tongue.length(), "0 200");
+        }
+        sheet.type("b\n" + "a".repeat(200));
+        sheet.tongue.keep(1);
+        sheet.type("a".repeat(200) + "\n" + "c".repeat(38));
+        Due.same("too long", sheet.tongue.merge(), Marktongue.FAILED);
+        Due.same("too long again", sheet.tongue.merge(), Marktongue.FAILED);
+        sheet.tongue.take(200, 2);
+        Due.same("a conflict", sheet.tongue.merge(), 1);
+        sheet.tongue.load(0);
+        Due.same("no longer too long", sheet.tongue.merge() + " " + sheet.tongue.length(), "0 202");
     }
 
     /** Every call that changes the text, and behind each every question as the first one. */
