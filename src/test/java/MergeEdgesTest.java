@@ -22,6 +22,7 @@ public final class MergeEdgesTest {
         lines();
         lengths();
         manyLines();
+        manyLinesLeftOut();
         slotsAndTextStay();
         anyMerges();
         Due.finish("MergeEdgesTest");
@@ -229,6 +230,19 @@ public final class MergeEdgesTest {
         String middle = "r\nq" + "\n".repeat(62) + "m" + "\n".repeat(7) + "p";
         clean("m\np\nr\nq", "m\np\nz\nr\nq", middle + "\nr", middle + "\nz\nr");
         clean("a\n".repeat(80), "a\n".repeat(79) + "b\na\n", "c\n" + "a\n".repeat(80), "c\n" + "a\n".repeat(79) + "b\na\n");
+    }
+
+    /** Lines of both texts that are left out, more than one text can have, ahead of one that is taken. */
+    private static void manyLinesLeftOut() {
+        String base = "\n".repeat(200) + "z";
+        String other = "a\n".repeat(100) + "z";
+        Sheet sheet = new Sheet(base);
+        sheet.tongue.keep(0);
+        sheet.type(other);
+        sheet.tongue.keep(1);
+        sheet.tongue.load(0);
+        sheet.type(base + "\nq");
+        Due.same("many lines left out", sheet.tongue.merge() + " " + sheet.text(), "0 " + other + "\nq");
     }
 
     /** "nothing has changed, if there are some": the tree and the prints neither. */
